@@ -394,7 +394,7 @@ public final class CoreTerms {
 
         int newNumber(int n) {
             int t = made(NUMBER, NONE, NONE, NONE, NONE, NONE);
-            if (t >= 0 && has(t)) {
+            if (has(t)) {
                 number[t] = n;
                 width[t] = digitsOf(n);
             }
@@ -447,18 +447,18 @@ public final class CoreTerms {
             third[t] = c;
             size[t] = newSize;
             depth[t] = newDepth;
-            freeLetters[t] = freeLettersFor(newKind, x, a, b, c);
+            freeLetters[t] = freeLettersFor(newKind, bit(x), freeLettersOf(a), freeLettersOf(b), freeLettersOf(c));
             width[t] = marksOf(newKind) + types.lengthOf(ofType) + widthOf(a) + widthOf(b) + widthOf(c);
             total++;
             return t;
         }
 
-        private int freeLettersFor(int newKind, int x, int a, int b, int c) {
-            switch (newKind) {
-                case NAME: return bit(x);
-                case FUNCTION: return freeLettersOf(a) & ~bit(x);
-                case LET: return freeLettersOf(a) | (freeLettersOf(b) & ~bit(x));
-                default: return freeLettersOf(a) | freeLettersOf(b) | freeLettersOf(c);
+        private static int freeLettersFor(int kind, int own, int inFirst, int inSecond, int inThird) {
+            switch (kind) {
+                case NAME: return own;
+                case FUNCTION: return inFirst & ~own;
+                case LET: return inFirst | (inSecond & ~own);
+                default: return inFirst | inSecond | inThird;
             }
         }
 
@@ -486,7 +486,7 @@ public final class CoreTerms {
         }
 
         private static int bit(int x) {
-            return isLetter(x) ? 1 << x : 0;
+            return x >= 0 && x < LETTERS ? 1 << x : 0;
         }
     }
 
