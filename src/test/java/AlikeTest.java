@@ -52,6 +52,10 @@ public final class AlikeTest {
         pair(check, "\\a:i.1", "[a=1]1", 0);
         pair(check, "[a=1]b", "[a=2]b", 0);
         pair(check, "(\\a:i.a+a)", "(\\a:i.a+a)", 1);
+        pair(check, "\\b:i.a", "\\a:i.a", 0);
+        pair(check, "\\a:i.z", "\\z:i.z", 0);
+        pair(check, "\\a:i.\\b:i.\\c:i.c", "\\a:i.\\b:i.\\d:i.c", 0);
+        pair(check, "\\a:i.\\b:i.\\c:i.\\d:i.((a b) (c d))", "\\d:i.\\c:i.\\b:i.\\a:i.((d c) (b a))", 1);
     }
 
     private static void leasts(Check check) {

@@ -9,6 +9,8 @@ public final class PutTest {
         orderOfTerms(check);
         letters(check);
         fulls(check);
+        fullInEachPart(check);
+        ofTheFirstTerm(check);
         wrongs(check);
         check.end();
     }
@@ -126,6 +128,34 @@ public final class PutTest {
         check.refused("DEPTH", core, () -> core.put(deepest, 0, sum), FULL);
         check.due("DEPTH 40 is fine", core.told(core.put(deepest - 1, 0, sum), 2), 40);
         check.due("so is a leaf", core.told(core.put(deepest, 0, one), 2), 40);
+    }
+
+    private static void fullInEachPart(Check check) {
+        String[] texts = {"{(a+1)?2:3}", "{1?(a+2):3}", "{1?2:(a+3)}", "[b=(a+1)]b", "[b=1](a+b)", "\\b:i.(a+b)", "((a+1) 2)", "(1 (a+2))"};
+        for (String text : texts) {
+            for (String put : new String[] {"7", "b"}) {
+                CoreTerms core = new CoreTerms();
+                int t = Check.read(core, text);
+                int u = Check.read(core, put);
+                while (core.count(0) < 399) {
+                    core.number(0);
+                }
+                check.refused("room for one: " + put + " into " + text, core, () -> core.put(t, 0, u), FULL);
+                core.number(0);
+                check.refused("no room: " + put + " into " + text, core, () -> core.put(t, 0, u), FULL);
+            }
+        }
+    }
+
+    private static void ofTheFirstTerm(Check check) {
+        CoreTerms core = new CoreTerms();
+        int b = core.name(1);
+        String[][] rows = {{"[c=1]a", "[c=1]b"}, {"[c=a]1", "[c=b]1"}, {"\\c:i.a", "\\c:i.b"}, {"(a a)", "(b b)"}, {"\\b:i.a", "\\c:i.b"},
+            {"[b=1]a", "[c=1]b"}, {"{a?a:a}", "{b?b:b}"}};
+        for (String[] row : rows) {
+            check.due("TERM 0 into " + row[0], Check.text(core, core.put(Check.read(core, row[0]), 0, b)), row[1]);
+        }
+        check.due("itself", core.put(core.name(0), 0, b), b);
     }
 
     private static void wrongs(Check check) {

@@ -13,6 +13,8 @@ public final class StepTest {
         drops(check);
         dropNumbers(check);
         dropFull(check);
+        dropFullInEachPart(check);
+        toTheFirstTerm(check);
         wrongs(check);
         check.end();
     }
@@ -164,6 +166,40 @@ public final class StepTest {
         check.due("room for one", core.drop(inner), 399);
         check.refused("no room", core, () -> core.drop(inner), FULL);
         check.due("no need of room", core.drop(let), core.told(let, 7));
+    }
+
+    private static void dropFullInEachPart(Check check) {
+        String[] texts = {"{([a=1]2+3)?4:5}", "{1?([a=1]2+3):5}", "{1?4:([a=1]2+3)}", "[b=([a=1]2+3)]b", "[b=1]([a=1]2+b)",
+            "[b=1]([a=1]2+3)", "\\b:i.([a=1]2+3)", "[b=([a=1]2+3)]4"};
+        for (String text : texts) {
+            CoreTerms core = new CoreTerms();
+            int t = Check.read(core, text);
+            while (core.count(0) < 400) {
+                core.number(0);
+            }
+            check.refused("no room: " + text, core, () -> core.drop(t), FULL);
+        }
+    }
+
+    private static void toTheFirstTerm(Check check) {
+        CoreTerms core = new CoreTerms();
+        int sum = core.name(5);
+        int one = core.number(1);
+        int choice = core.join(6, one, sum, one);
+        check.due("a step to TERM 0", core.step(choice), 0);
+        check.due("a run to TERM 0", core.run(choice, 50), 0);
+        check.due("ran one", core.ran(), 1);
+        check.due("in a sum", Check.text(core, core.step(core.join(5, one, choice, 0))), "(1+f)");
+        check.due("in a sum, ahead", Check.text(core, core.step(core.join(5, choice, one, 0))), "(f+1)");
+        check.due("in a call", Check.text(core, core.step(core.join(3, choice, one, 0))), "(f 1)");
+        check.due("in a choice", Check.text(core, core.step(core.join(6, choice, one, one))), "{f?1:1}");
+        int inner = core.join(5, core.let(0, one, one), one, 0);
+        int let = core.let(0, inner, 0);
+        int before = core.count(0);
+        check.due("a let dropped to TERM 0", core.drop(let), 0);
+        check.due("what e became stays", core.count(0), before + 1);
+        int function = core.function(0, 0, 0);
+        check.due("a call to TERM 0", core.step(core.join(3, function, one, 0)), 0);
     }
 
     private static void wrongs(Check check) {

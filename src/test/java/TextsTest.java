@@ -6,6 +6,7 @@ public final class TextsTest {
         Check check = new Check("texts");
         prints(check);
         mostPrint(check);
+        mostPrintOfEachKind(check);
         bytes(check);
         feeds(check);
         copies(check);
@@ -71,6 +72,44 @@ public final class TextsTest {
         check.due("THE PRINT stays", Check.printed(core), "-2147483648");
         int far = core.let(0, whole, 0);
         check.refused("far above", core, () -> core.print(far), FULL);
+    }
+
+    /** A term of each kind whose text has 4000 bytes, and one byte more. */
+    private static void mostPrintOfEachKind(Check check) {
+        for (int kind = 1; kind <= 6; kind++) {
+            for (int more = 0; more <= 1; more++) {
+                CoreTerms core = new CoreTerms();
+                int t = core.number(Integer.MIN_VALUE);
+                for (int i = 0; i < 8; i++) {
+                    t = core.join(5, t, t, 0);
+                }
+                t = core.join(5, t, 4, 0);
+                t = core.join(5, t, 3, 0);
+                int a = core.name(0);
+                // 3917 till here; what stands around it has 83 bytes
+                for (int i = 0; i < 10; i++) {
+                    t = around(core, kind, t, a);
+                }
+                int rest = 4000 + more - core.print(t);
+                check.due("room is left", rest >= 4 ? 1 : 0, 1);
+                for (; rest >= 8; rest -= 4) {
+                    t = core.join(5, t, a, 0);
+                }
+                int[] filling = {1, 12, 123, 1234};
+                int whole = core.join(5, t, core.number(filling[rest - 4]), 0);
+                check.due("KIND " + kind + ", " + (4000 + more), core.print(whole), more == 0 ? 4000 : FULL);
+            }
+        }
+    }
+
+    private static int around(CoreTerms core, int kind, int t, int a) {
+        switch (kind) {
+            case 2: return core.function(0, 0, t);
+            case 4: return core.let(0, a, t);
+            case 6: return core.join(6, a, a, t);
+            case 3: return core.join(3, a, t, 0);
+            default: return core.join(5, a, t, 0);
+        }
     }
 
     private static void bytes(Check check) {
@@ -248,6 +287,7 @@ public final class TextsTest {
         check.due("41 deep lets", Check.read(core, times("[a=", 40) + "1"), FULL);
         check.due("41 deep bodies of lets", Check.read(core, times("[a=1]", 40) + "1"), FULL);
         check.due("41 deep choices", Check.read(core, times("{1?2:", 40) + "1"), FULL);
+        nestingInEachPart(check);
         String longest = times("(", 9) + "i" + times(">i)", 9);
         check.due("an arrow of LENGTH " + longest.length() + ", 39 deep",
             core.told(Check.read(core, times("[a=1]", 38) + "\\a:" + longest + ".1"), 2), 40);
@@ -258,6 +298,23 @@ public final class TextsTest {
         check.due("types 41 deep on the right", Check.read(core, "\\a:" + times("(i>", 40) + "i"), FULL);
         check.due("a type of 12 deep", Check.read(core, "\\a:" + times("(i>", 11) + "i!"), -10 - 37);
         check.due("which ends", Check.read(core, "\\a:" + times("(i>", 11) + "i" + times(")", 10) + "!"), FULL);
+    }
+
+    private static void nestingInEachPart(Check check) {
+        String[][] parts = {{"(", " 1)"}, {"(1 ", ")"}, {"(", "+1)"}, {"(1+", ")"}, {"[a=", "]1"}, {"[a=1]", ""}, {"{", "?1:2}"},
+            {"{1?", ":2}"}, {"{1?2:", "}"}, {"\\a:i.", ""}};
+        for (String[] part : parts) {
+            CoreTerms core = new CoreTerms();
+            int t = Check.read(core, times(part[0], 39) + "a" + times(part[1], 39));
+            check.due("40 deep by " + part[0] + part[1], core.told(t, 2), 40);
+            core.clear();
+            check.due("41 deep by " + part[0] + part[1], Check.read(core, times(part[0], 40) + "a" + times(part[1], 40)), FULL);
+            check.due("TERMS", core.count(0), 0);
+        }
+        CoreTerms core = new CoreTerms();
+        check.due("a wrong byte behind the first TERM", Check.read(core, "a!"), -11);
+        check.due("39 types on the right, then a wrong byte", Check.read(core, "\\a:" + times("(i>", 39) + "!"), -10 - 3 - 117);
+        check.due("40 types on the right, then a wrong byte", Check.read(core, "\\a:" + times("(i>", 40) + "!"), FULL);
     }
 
     private static void readFullOfTerms(Check check) {
