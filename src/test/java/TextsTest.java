@@ -309,6 +309,8 @@ public final class TextsTest {
             check.due("40 deep by " + part[0] + part[1], core.told(t, 2), 40);
             core.clear();
             check.due("41 deep by " + part[0] + part[1], Check.read(core, times(part[0], 40) + "a" + times(part[1], 40)), FULL);
+            check.due("41 deep, ahead of a wrong byte", Check.read(core, times(part[0], 40) + "!"), FULL);
+            check.due("40 deep, then a wrong byte", Check.read(core, times(part[0], 39) + "!"), -10 - 39 * part[0].length());
             check.due("TERMS", core.count(0), 0);
         }
         CoreTerms core = new CoreTerms();
