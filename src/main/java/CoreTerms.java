@@ -1050,7 +1050,7 @@ public final class CoreTerms {
 
         private int termHere(int level) {
             if (level > MOST_DEPTH) {
-                return FULL;
+                return tooDeepHere();
             }
             int c = byteHere();
             if (c == '-' || isDigit(c)) {
@@ -1101,7 +1101,8 @@ public final class CoreTerms {
             if (wrong < 0) {
                 return wrong;
             }
-            int type = typeHere(1);
+            // types count on from the terms around them: the bound is that of both together
+            int type = typeHere(level + 1);
             if (type < 0) {
                 return type;
             }
@@ -1157,9 +1158,9 @@ public final class CoreTerms {
         }
 
         private int typeHere(int level) {
-            // nesting has the bound of DEPTH; LENGTH is known only where an arrow ends
+            // LENGTH is known only where an arrow ends, so it cannot be the bound of the nesting
             if (level > MOST_DEPTH) {
-                return FULL;
+                return tooDeepHere();
             }
             if (byteHere() == 'i') {
                 place++;
@@ -1210,6 +1211,11 @@ public final class CoreTerms {
 
         private int byteHere() {
             return place >= 0 && place < length && place < TAPE_ROOM ? tape[place] & 255 : NONE;
+        }
+
+        private int tooDeepHere() {
+            // behind the end of the tape nothing would begin, so there the end itself is told
+            return place < length ? FULL : wrongHere();
         }
 
         private int wrongHere() {

@@ -537,10 +537,17 @@ final class Model {
         return add(0, Integer.parseInt(digits), NONE, null);
     }
 
-    private String readType(int level) {
+    /** Something begins at the next byte; where there is none, the end is told. */
+    private char begins(int level) {
+        char c = here();
         if (level == 41) {
             throw new Refusal(FULL);
         }
+        return c;
+    }
+
+    private String readType(int level) {
+        begins(level);
         if (take("i(") == 'i') {
             return "i";
         }
@@ -552,10 +559,7 @@ final class Model {
     }
 
     private int readTerm(int level) {
-        if (level == 41) {
-            throw new Refusal(FULL);
-        }
-        char c = here();
+        char c = begins(level);
         if (c == '-' || c >= '0' && c <= '9') {
             return readNumber();
         }
@@ -566,7 +570,7 @@ final class Model {
         if (c == '\\') {
             int x = takeLetter();
             take(":");
-            String type = readType(1);
+            String type = readType(level + 1);
             take(".");
             return add(2, 0, x, type, readTerm(level + 1));
         }

@@ -156,7 +156,7 @@ public final class ModelTest {
         if (how == 1) {
             return one("read", 0);
         }
-        String text = how < 5 && model.count(0) > 0 ? model.text(Math.max(0, model.count(0) - 1 - random.nextInt(10)))
+        String text = how == 2 ? deep() : how < 5 && model.count(0) > 0 ? model.text(Math.max(0, model.count(0) - 1 - random.nextInt(10)))
             : drawn(random.nextInt(20) == 0 ? 39 : 5);
         if (text.length() > 700) {
             return one("copy", 0);
@@ -168,6 +168,26 @@ public final class ModelTest {
             text = text.substring(0, random.nextInt(text.length() + 1));
         }
         return feedText(text) && (random.nextInt(8) == 0 || one("read", 0) && one("count", 0) && one("count", 1));
+    }
+
+    /** Some 40 TERMS and TYPES that begin within one another, then the end or some bytes. */
+    private String deep() {
+        String[] openers = {"(", "(1 ", "(a+", "[a=", "[b=1]", "{", "{1?", "{1?2:", "\\a:i."};
+        StringBuilder text = new StringBuilder();
+        int around = random.nextInt(42);
+        for (int i = 0; i < around; i++) {
+            text.append(openers[random.nextInt(openers.length)]);
+        }
+        if (random.nextBoolean()) {
+            text.append("\\a:");
+            for (int i = 37 + random.nextInt(4) - around; i > 0; i--) {
+                text.append(random.nextInt(3) > 0 ? "(" : "(i>");
+            }
+        }
+        for (int i = random.nextInt(3); i > 0; i--) {
+            text.append(SIGNS.charAt(random.nextInt(SIGNS.length())));
+        }
+        return text.toString();
     }
 
     private String changed(String text) {

@@ -14,7 +14,9 @@ public final class TextsTest {
         wrongBytes(check);
         readNumbers(check);
         readsInOrder(check);
-        nesting(check);
+        nestedTerms(check);
+        nestedTypes(check);
+        nestedTypesInTerms(check);
         readFullOfTerms(check);
         readFullOfTypes(check);
         check.end();
@@ -269,54 +271,114 @@ public final class TextsTest {
         check.due("a new one of one that is there", core.side(4, 0) * 10 + core.side(4, 1), 3);
     }
 
-    private static void nesting(Check check) {
-        CoreTerms core = new CoreTerms();
-        check.due("40 deep", core.told(Check.read(core, times("\\a:i.", 39) + "a"), 2), 40);
-        core.clear();
-        String forty = times("\\a:i.", 40);
-        for (String behind : new String[] {"a", "1", "(", "", "!"}) {
-            Check.feed(core, forty + behind);
-            check.due("41 deep, then " + behind, core.read(), FULL);
-            check.due("TERMS", core.count(0), 0);
-            check.due("THE TAPE", core.count(2), 0);
-        }
-        check.due("the 40th is wrong", Check.read(core, times("(", 39) + "!"), -49);
-        check.due("40 deep calls", core.told(Check.read(core, times("(1 ", 39) + "2" + times(")", 39)), 2), 40);
-        core.clear();
-        check.due("41 deep calls", Check.read(core, times("(1 ", 40) + "2" + times(")", 40)), FULL);
-        check.due("41 deep lets", Check.read(core, times("[a=", 40) + "1"), FULL);
-        check.due("41 deep bodies of lets", Check.read(core, times("[a=1]", 40) + "1"), FULL);
-        check.due("41 deep choices", Check.read(core, times("{1?2:", 40) + "1"), FULL);
-        nestingInEachPart(check);
-        String longest = times("(", 9) + "i" + times(">i)", 9);
-        check.due("an arrow of LENGTH " + longest.length() + ", 39 deep",
-            core.told(Check.read(core, times("[a=1]", 38) + "\\a:" + longest + ".1"), 2), 40);
-        core.clear();
-        check.due("types 41 deep", Check.read(core, "\\a:" + times("(", 40)), FULL);
-        check.due("types 41 deep, then a wrong byte", Check.read(core, "\\a:" + times("(", 40) + "!"), FULL);
-        check.due("types 40 deep", Check.read(core, "\\a:" + times("(", 39) + "!"), -10 - 42);
-        check.due("types 41 deep on the right", Check.read(core, "\\a:" + times("(i>", 40) + "i"), FULL);
-        check.due("a type of 12 deep", Check.read(core, "\\a:" + times("(i>", 11) + "i!"), -10 - 37);
-        check.due("which ends", Check.read(core, "\\a:" + times("(i>", 11) + "i" + times(")", 10) + "!"), FULL);
-    }
-
-    private static void nestingInEachPart(Check check) {
+    /** TERMS alone: the 40th within one another, and the 41st. */
+    private static void nestedTerms(Check check) {
         String[][] parts = {{"(", " 1)"}, {"(1 ", ")"}, {"(", "+1)"}, {"(1+", ")"}, {"[a=", "]1"}, {"[a=1]", ""}, {"{", "?1:2}"},
             {"{1?", ":2}"}, {"{1?2:", "}"}, {"\\a:i.", ""}};
         for (String[] part : parts) {
+            String forty = times(part[0], 40);
             CoreTerms core = new CoreTerms();
             int t = Check.read(core, times(part[0], 39) + "a" + times(part[1], 39));
             check.due("40 deep by " + part[0] + part[1], core.told(t, 2), 40);
             core.clear();
-            check.due("41 deep by " + part[0] + part[1], Check.read(core, times(part[0], 40) + "a" + times(part[1], 40)), FULL);
-            check.due("41 deep, ahead of a wrong byte", Check.read(core, times(part[0], 40) + "!"), FULL);
-            check.due("40 deep, then a wrong byte", Check.read(core, times(part[0], 39) + "!"), -10 - 39 * part[0].length());
-            check.due("TERMS", core.count(0), 0);
+            refusedRead(check, core, times(part[0], 39) + "!", -10 - 39 * part[0].length());
+            refusedRead(check, core, times(part[0], 39), -10 - 39 * part[0].length());
+            refusedRead(check, core, forty + "a" + times(part[1], 40), FULL);
+            refusedRead(check, core, forty + part[0], FULL);
+            refusedRead(check, core, forty + "1", FULL);
+            refusedRead(check, core, forty + "a!", FULL);
+            refusedRead(check, core, forty + "!", FULL);
+            refusedRead(check, core, forty + "\u0000", FULL);
+            endsBehindForty(check, core, times(part[0], 39));
         }
         CoreTerms core = new CoreTerms();
-        check.due("a wrong byte behind the first TERM", Check.read(core, "a!"), -11);
-        check.due("39 types on the right, then a wrong byte", Check.read(core, "\\a:" + times("(i>", 39) + "!"), -10 - 3 - 117);
-        check.due("40 types on the right, then a wrong byte", Check.read(core, "\\a:" + times("(i>", 40) + "!"), FULL);
+        refusedRead(check, core, "a!", -11);
+        refusedRead(check, core, "(" + times("(", 38) + "1", -50);
+        refusedRead(check, core, times("(", 39) + "1!", -50);
+    }
+
+    /** The 40th has begun, and what would be the 41st has no byte: the end is told, at whichever byte it comes. */
+    private static void endsBehindForty(Check check, CoreTerms core, String around) {
+        for (String fortieth : new String[] {"(", "[a=", "{", "\\a:"}) {
+            for (int n = 0; n <= fortieth.length(); n++) {
+                refusedRead(check, core, around + fortieth.substring(0, n), -10 - around.length() - n);
+            }
+            refusedRead(check, core, around + fortieth + "i", FULL);
+        }
+    }
+
+    /** TYPES alone, but for the FUNCTION that must be around them: it is the first, so the 39th TYPE is the 40th of all. */
+    private static void nestedTypes(Check check) {
+        CoreTerms core = new CoreTerms();
+        for (String part : new String[] {"(", "(i>"}) {
+            String ahead = "\\a:" + times(part, 38), above = "\\a:" + times(part, 39);
+            refusedRead(check, core, ahead, -10 - ahead.length());
+            refusedRead(check, core, ahead + "!", -10 - ahead.length());
+            refusedRead(check, core, ahead + "i", -10 - ahead.length() - 1);
+            refusedRead(check, core, ahead + "i!", -10 - ahead.length() - 1);
+            refusedRead(check, core, ahead + "(", -10 - ahead.length() - 1);
+            refusedRead(check, core, above + "!", FULL);
+            refusedRead(check, core, above + "i", FULL);
+            refusedRead(check, core, above + "(", FULL);
+            refusedRead(check, core, above + "i!", FULL);
+        }
+        refusedRead(check, core, "\\a:" + times("(i>", 11) + "i!", -10 - 37);
+        refusedRead(check, core, "\\a:" + times("(i>", 11) + "i" + times(")", 10) + "!", FULL);
+    }
+
+    /** TYPES within TERMS: both are counted, at each mixture of them. */
+    private static void nestedTypesInTerms(Check check) {
+        String[] parts = {"(", "(1 ", "[a=", "[a=1]", "{1?2:", "\\b:i."};
+        for (String part : parts) {
+            for (int around = 0; around <= 38; around++) {
+                CoreTerms core = new CoreTerms();
+                String ahead = times(part, around) + "\\a:" + times("(", 38 - around);
+                refusedRead(check, core, ahead, -10 - ahead.length());
+                refusedRead(check, core, ahead + "!", -10 - ahead.length());
+                refusedRead(check, core, ahead + "i!", -10 - ahead.length() - 1);
+                refusedRead(check, core, ahead + "(", -10 - ahead.length() - 1);
+                refusedRead(check, core, ahead + "(i", FULL);
+                refusedRead(check, core, ahead + "((!", FULL);
+                refusedRead(check, core, ahead + "(!", FULL);
+            }
+            String thirtyNine = times(part, 39);
+            CoreTerms core = new CoreTerms();
+            refusedRead(check, core, thirtyNine + "\\", -10 - thirtyNine.length() - 1);
+            refusedRead(check, core, thirtyNine + "\\a!", -10 - thirtyNine.length() - 2);
+            refusedRead(check, core, thirtyNine + "\\a:", -10 - thirtyNine.length() - 3);
+            refusedRead(check, core, thirtyNine + "\\a:i", FULL);
+            refusedRead(check, core, thirtyNine + "\\a:!", FULL);
+        }
+        nestedWholeTypes(check);
+    }
+
+    private static void nestedWholeTypes(Check check) {
+        // its innermost TYPES are the 10th within one another
+        String longest = times("(", 9) + "i" + times(">i)", 9);
+        for (int around = 0; around <= 38; around++) {
+            CoreTerms core = new CoreTerms();
+            int t = Check.read(core, times("[a=1]", around) + "\\a:" + longest + ".1");
+            check.due("of LENGTH 37 within " + around, t, around <= 29 ? 2 * around + 1 : FULL);
+            check.due("TYPES", core.count(1), around <= 29 ? 10 : 1);
+            check.due("THE TAPE", core.count(2), 0);
+        }
+        CoreTerms core = new CoreTerms();
+        check.due("a TYPE, then TERMS: not within one another",
+            core.told(Check.read(core, "\\a:" + longest + "." + times("[a=1]", 38) + "1"), 2), 40);
+        core.clear();
+        refusedRead(check, core, "\\a:" + longest + "." + times("[a=1]", 39) + "1", FULL);
+        check.due("DEPTH 40, INT at the 40th", core.told(Check.read(core, times("[a=1]", 38) + "\\a:i.1"), 2), 40);
+        core.clear();
+        check.due("the FROM of an ARROW at the 41st", Check.read(core, times("[a=1]", 38) + "\\a:(i>i).1"), FULL);
+        check.due("its FUNCTION one less deep", core.told(Check.read(core, times("[a=1]", 37) + "\\a:(i>i).1"), 2), 39);
+    }
+
+    private static void refusedRead(Check check, CoreTerms core, String text, int due) {
+        int terms = core.count(0), types = core.count(1);
+        check.due("read " + text, Check.read(core, text), due);
+        check.due("TERMS behind " + text, core.count(0), terms);
+        check.due("TYPES behind " + text, core.count(1), types);
+        check.due("THE TAPE behind " + text, core.count(2), 0);
     }
 
     private static void readFullOfTerms(Check check) {
