@@ -1049,24 +1049,27 @@ public final class CoreTerms {
         }
 
         private int termHere(int level) {
-            if (level > MOST_DEPTH) {
-                return tooDeepHere();
-            }
             int c = byteHere();
-            if (c == '-' || isDigit(c)) {
-                return numberHere();
+            // a byte that begins no term is told at every level: only one that begins the 41st finds FULL
+            if (!beginsTerm(c)) {
+                return wrongHere();
             }
-            if (isLetter(c - 'a')) {
-                place++;
-                return terms.newName(c - 'a');
+            if (level > MOST_DEPTH) {
+                return FULL;
             }
             switch (c) {
                 case '\\': return functionHere(level);
                 case '(': return pairHere(level);
                 case '[': return letHere(level);
                 case '{': return choiceHere(level);
-                default: return wrongHere();
+                default: return isLetter(c - 'a') ? nameHere() : numberHere();
             }
+        }
+
+        private int nameHere() {
+            int x = byteHere() - 'a';
+            place++;
+            return terms.newName(x);
         }
 
         private int numberHere() {
@@ -1158,11 +1161,15 @@ public final class CoreTerms {
         }
 
         private int typeHere(int level) {
+            int c = byteHere();
+            if (!beginsType(c)) {
+                return wrongHere();
+            }
             // LENGTH is known only where an arrow ends, so it cannot be the bound of the nesting
             if (level > MOST_DEPTH) {
-                return tooDeepHere();
+                return FULL;
             }
-            if (byteHere() == 'i') {
+            if (c == 'i') {
                 place++;
                 return INT;
             }
@@ -1213,13 +1220,16 @@ public final class CoreTerms {
             return place >= 0 && place < length && place < TAPE_ROOM ? tape[place] & 255 : NONE;
         }
 
-        private int tooDeepHere() {
-            // behind the end of the tape nothing would begin, so there the end itself is told
-            return place < length ? FULL : wrongHere();
-        }
-
         private int wrongHere() {
             return FIRST_PLACE - place;
+        }
+
+        private static boolean beginsTerm(int c) {
+            return isDigit(c) || isLetter(c - 'a') || c == '-' || c == '\\' || c == '(' || c == '[' || c == '{';
+        }
+
+        private static boolean beginsType(int c) {
+            return c == 'i' || c == '(';
         }
 
         private static boolean isDigit(int c) {

@@ -537,9 +537,10 @@ final class Model {
         return add(0, Integer.parseInt(digits), NONE, null);
     }
 
-    /** Something begins at the next byte; where there is none, the end is told. */
-    private char begins(int level) {
-        char c = here();
+    /** What is due begins with the next byte, if that is one of the first bytes of it; else that byte, or the end, is told. */
+    private char begins(String firstBytes, int level) {
+        char c = take(firstBytes);
+        place--;
         if (level == 41) {
             throw new Refusal(FULL);
         }
@@ -547,7 +548,7 @@ final class Model {
     }
 
     private String readType(int level) {
-        begins(level);
+        begins("i(", level);
         if (take("i(") == 'i') {
             return "i";
         }
@@ -559,7 +560,7 @@ final class Model {
     }
 
     private int readTerm(int level) {
-        char c = begins(level);
+        char c = begins("-0123456789abcdefghijklmnopqrstuvwxyz\\([{", level);
         if (c == '-' || c >= '0' && c <= '9') {
             return readNumber();
         }

@@ -1,6 +1,8 @@
 /** Promises 22 to 26: print, at, feed, copy, read. */
 public final class TextsTest {
     private static final int BAD = CoreTerms.BAD, NONE = CoreTerms.NONE, FULL = CoreTerms.FULL;
+    private static final String TERM_BEGINS = "-0123456789abcdefghijklmnopqrstuvwxyz\\([{", TYPE_BEGINS = "i(";
+    private static final String[] TERM_PARTS = {"(", "(1 ", "(1+", "[a=", "[a=1]", "{", "{1?", "{1?2:", "\\a:i."};
 
     public static void main(String[] args) {
         Check check = new Check("texts");
@@ -17,6 +19,8 @@ public final class TextsTest {
         nestedTerms(check);
         nestedTypes(check);
         nestedTypesInTerms(check);
+        fortyFirstTerms(check);
+        fortyFirstTypes(check);
         readFullOfTerms(check);
         readFullOfTypes(check);
         check.end();
@@ -287,8 +291,6 @@ public final class TextsTest {
             refusedRead(check, core, forty + part[0], FULL);
             refusedRead(check, core, forty + "1", FULL);
             refusedRead(check, core, forty + "a!", FULL);
-            refusedRead(check, core, forty + "!", FULL);
-            refusedRead(check, core, forty + "\u0000", FULL);
             endsBehindForty(check, core, times(part[0], 39));
         }
         CoreTerms core = new CoreTerms();
@@ -317,7 +319,8 @@ public final class TextsTest {
             refusedRead(check, core, ahead + "i", -10 - ahead.length() - 1);
             refusedRead(check, core, ahead + "i!", -10 - ahead.length() - 1);
             refusedRead(check, core, ahead + "(", -10 - ahead.length() - 1);
-            refusedRead(check, core, above + "!", FULL);
+            // the first i in the fortieth is itself the 41st
+            refusedRead(check, core, above + "!", part.equals("(") ? -10 - above.length() : FULL);
             refusedRead(check, core, above + "i", FULL);
             refusedRead(check, core, above + "(", FULL);
             refusedRead(check, core, above + "i!", FULL);
@@ -339,7 +342,7 @@ public final class TextsTest {
                 refusedRead(check, core, ahead + "(", -10 - ahead.length() - 1);
                 refusedRead(check, core, ahead + "(i", FULL);
                 refusedRead(check, core, ahead + "((!", FULL);
-                refusedRead(check, core, ahead + "(!", FULL);
+                refusedRead(check, core, ahead + "(!", -10 - ahead.length() - 1);
             }
             String thirtyNine = times(part, 39);
             CoreTerms core = new CoreTerms();
@@ -347,7 +350,7 @@ public final class TextsTest {
             refusedRead(check, core, thirtyNine + "\\a!", -10 - thirtyNine.length() - 2);
             refusedRead(check, core, thirtyNine + "\\a:", -10 - thirtyNine.length() - 3);
             refusedRead(check, core, thirtyNine + "\\a:i", FULL);
-            refusedRead(check, core, thirtyNine + "\\a:!", FULL);
+            refusedRead(check, core, thirtyNine + "\\a:!", -10 - thirtyNine.length() - 3);
         }
         nestedWholeTypes(check);
     }
@@ -371,6 +374,49 @@ public final class TextsTest {
         core.clear();
         check.due("the FROM of an ARROW at the 41st", Check.read(core, times("[a=1]", 38) + "\\a:(i>i).1"), FULL);
         check.due("its FUNCTION one less deep", core.told(Check.read(core, times("[a=1]", 37) + "\\a:(i>i).1"), 2), 39);
+    }
+
+    /** A 41st TERM is due, behind each byte behind which the first PART of a fortieth is, within each PART of the others. */
+    private static void fortyFirstTerms(Check check) {
+        for (String part : TERM_PARTS) {
+            for (String fortieth : new String[] {"(", "[a=", "{"}) {
+                fortyFirst(check, times(part, 39) + fortieth, TERM_BEGINS);
+            }
+            fortyFirst(check, times(part, 39) + "\\a:", TYPE_BEGINS);
+        }
+        CoreTerms core = new CoreTerms();
+        for (String number : new String[] {"-", "-0", "-!", "00", "2147483648"}) {
+            refusedRead(check, core, times("(", 40) + number, FULL);
+        }
+        for (String fortieth : new String[] {"[!", "\\!", "[a!", "\\a!"}) {
+            refusedRead(check, core, times("(", 39) + fortieth, -10 - 39 - fortieth.length() + 1);
+        }
+    }
+
+    /** A 41st TYPE is due, within FROM and TO of the others and within TERMS, from one FUNCTION alone to 39 around. */
+    private static void fortyFirstTypes(Check check) {
+        for (String typePart : new String[] {"(", "(i>"}) {
+            for (int around = 0; around <= 38; around++) {
+                String part = TERM_PARTS[around % TERM_PARTS.length];
+                fortyFirst(check, times(part, around) + "\\a:" + times(typePart, 38 - around) + "(", TYPE_BEGINS);
+            }
+        }
+        // whole ARROWS on the way: their own sides reach the fortieth, no further
+        fortyFirst(check, times("\\a:(i>i).", 38) + "((", TERM_BEGINS);
+        fortyFirst(check, "\\a:" + times("((i>i)>", 37) + "((", TYPE_BEGINS);
+    }
+
+    /** Forty have begun: each byte that begins what is due is FULL, each other one is told, and so is the end. */
+    private static void fortyFirst(Check check, String ahead, String begins) {
+        int toldPlace = -10 - ahead.length();
+        CoreTerms core = new CoreTerms();
+        refusedRead(check, core, ahead, toldPlace);
+        for (char c = 0; c < 256; c++) {
+            int due = begins.indexOf(c) >= 0 ? FULL : toldPlace;
+            core = new CoreTerms();
+            refusedRead(check, core, ahead + c, due);
+            refusedRead(check, core, ahead + c + "!", due);
+        }
     }
 
     private static void refusedRead(Check check, CoreTerms core, String text, int due) {
