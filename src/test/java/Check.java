@@ -1,9 +1,12 @@
 import java.nio.charset.StandardCharsets;
 import java.util.function.IntSupplier;
+import java.util.function.Supplier;
+import java.util.function.ToLongFunction;
 
 /** What the project's tests share: rows of answers that are due, and texts for THE TAPE and of THE PRINT. */
 final class Check {
     private final String title;
+    private String of = "";
     private int rows = 0;
     private int wrong = 0;
 
@@ -11,19 +14,20 @@ final class Check {
         this.title = title;
     }
 
+    /** The rows that follow are of this sentence of the document. */
+    void sentence(int promise, String words) {
+        of = "promise " + promise + ", '" + words + "': ";
+    }
+
     void due(String row, long got, long want) {
-        rows++;
-        if (got != want) {
-            wrong++;
-            System.out.println(title + ": " + row + " answered " + got + ", due is " + want);
-        }
+        due(row, Long.toString(got), Long.toString(want));
     }
 
     void due(String row, String got, String want) {
         rows++;
         if (!got.equals(want)) {
             wrong++;
-            System.out.println(title + ": " + row + " answered " + got + ", due is " + want);
+            System.out.println(title + ": " + of + row + " answered " + got + ", due is " + want);
         }
     }
 
@@ -31,7 +35,24 @@ final class Check {
     void refused(String row, CoreTerms core, IntSupplier call, int want) {
         String before = stateOf(core);
         due(row, call.getAsInt(), want);
-        due(row + " (the state)", stateOf(core), before);
+        sameState(row, stateOf(core), before);
+    }
+
+    /** A row on one of two objects made alike: behind it the two must be alike in all, THE TAPE and what is DECLARED too. */
+    void refused(String row, Supplier<CoreTerms> made, ToLongFunction<CoreTerms> call, long want) {
+        CoreTerms core = made.get();
+        due(row, call.applyAsLong(core), want);
+        sameState(row, wholeStateOf(core), wholeStateOf(made.get()));
+    }
+
+    /** Of two states that differ only the first line that does is told. */
+    private void sameState(String row, String got, String want) {
+        String[] gotLines = got.split("\n"), wantLines = want.split("\n");
+        int i = 0;
+        while (i < gotLines.length - 1 && i < wantLines.length - 1 && gotLines[i].equals(wantLines[i])) {
+            i++;
+        }
+        due(row + " (the state)", got.equals(want) ? want : gotLines[i], got.equals(want) ? want : wantLines[i] + " (or more)");
     }
 
     void end() {
@@ -96,5 +117,18 @@ final class Check {
             state.append(core.free(t)).append('\n');
         }
         return state.append(printed(core)).toString();
+    }
+
+    /** Also what can be seen only by changing it: the object is of no use behind this. */
+    private static String wholeStateOf(CoreTerms core) {
+        StringBuilder state = new StringBuilder(stateOf(core));
+        core.clear();
+        int t = core.read();
+        state.append("\ntape ").append(t).append(' ').append(text(core, t)).append("\ndeclared");
+        core.clear();
+        for (int x = 0; x < 26; x++) {
+            state.append(' ').append(core.type(core.name(x)));
+        }
+        return state.toString();
     }
 }
