@@ -8,6 +8,7 @@ public final class BoundsOfAskingTest {
     public static void main(String[] args) {
         Check check = new Check("bounds of asking");
         toldOfEachKind(check);
+        toldWhereOthersWere(check);
         toldLeastAndMost(check);
         toldBad(check);
         freeBounds(check);
@@ -17,6 +18,7 @@ public final class BoundsOfAskingTest {
         usesBad(check);
         typeBad(check);
         typeNone(check);
+        typeOfCall(check);
         typeFullOfTypes(check);
         typeFullOfLength(check);
         typeInOrder(check);
@@ -30,8 +32,7 @@ public final class BoundsOfAskingTest {
         check.end();
     }
 
-    private static void toldOfEachKind(Check check) {
-        CoreTerms core = new CoreTerms();
+    private static CoreTerms ofEachKind(CoreTerms core) {
         core.number(-7);
         core.name(25);
         core.function(3, 0, 1);
@@ -39,6 +40,11 @@ public final class BoundsOfAskingTest {
         core.let(0, 0, 1);
         core.join(5, 1, 0, 0);
         core.join(6, 0, 1, 2);
+        return core;
+    }
+
+    private static void toldOfEachKind(Check check) {
+        CoreTerms core = ofEachKind(new CoreTerms());
         String[] words = {"0 its KIND", "1 SIZE", "2 DEPTH", "3 its n (of others 0)", "4 its x (NONE)", "5 the TYPE of a FUNCTION (NONE)",
             "6 .. 8 its PARTS (NONE)", "6 .. 8 its PARTS (NONE)", "6 .. 8 its PARTS (NONE)"};
         long[][] due = {{0, 1, 1, -7, NONE, NONE, NONE, NONE, NONE}, {1, 1, 1, 0, 25, NONE, NONE, NONE, NONE},
@@ -50,6 +56,35 @@ public final class BoundsOfAskingTest {
                 check.due("told(" + t + ", " + what + ")", core.told(t, what), due[t][what]);
             }
         }
+    }
+
+    /** TERMS that came where others were that went: nothing of those is told. */
+    private static void toldWhereOthersWere(Check check) {
+        check.sentence(10, "its n (of others 0), its x, TYPE, PARTS (NONE), whatever was there before");
+        String due = Check.stateOf(ofEachKind(new CoreTerms()));
+        CoreTerms numbers = new CoreTerms();
+        for (int i = 0; i < 10; i++) {
+            numbers.number(MIN);
+        }
+        numbers.clear();
+        check.due("NUMBERS that are cleared", Check.stateOf(ofEachKind(numbers)), due);
+        CoreTerms choices = new CoreTerms();
+        choices.number(1);
+        for (int i = 1; i < 10; i++) {
+            choices.join(6, i - 1, 0, 0);
+        }
+        choices.clear();
+        check.due("CHOICES that are cleared", Check.stateOf(ofEachKind(choices)), due);
+        CoreTerms functions = new CoreTerms();
+        functions.name(0);
+        for (int i = 1; i < 10; i++) {
+            functions.function(i, 0, i - 1);
+        }
+        functions.clear();
+        check.due("FUNCTIONS that are cleared", Check.stateOf(ofEachKind(functions)), due);
+        CoreTerms refused = new CoreTerms();
+        Check.read(refused, "{(5+6)?(7+8):(9+10)!");
+        check.due("NUMBERS of a read() that told a place", Check.stateOf(ofEachKind(refused)), due);
     }
 
     private static void toldLeastAndMost(Check check) {
@@ -190,6 +225,31 @@ public final class BoundsOfAskingTest {
         }
     }
 
+    private static void typeOfCall(Check check) {
+        check.sentence(13, "CALL: of a, FAULT 3 (at a), if that is not its FROM; its TO");
+        CoreTerms core = new CoreTerms();
+        int given = core.arrow(0, 0), back = core.arrow(0, given), other = core.arrow(given, 0), f = core.arrow(given, back);
+        int[] types = {0, given, back, other, f};
+        for (int x = 0; x < types.length; x++) {
+            core.name(x);
+            core.declare(x, types[x]);
+        }
+        for (int a = 0; a < types.length; a++) {
+            int call = core.join(3, 4, a, 0);
+            check.due("of TYPE " + types[a], core.type(call), types[a] == given ? back : NONE);
+            check.due("its FAULT", core.fault(0), types[a] == given ? 0 : 3);
+            check.due("at a", core.fault(1), types[a] == given ? NONE : a);
+        }
+        check.due("TO is INT", core.type(core.join(3, 3, 1, 0)), 0);
+        check.due("FROM is INT", core.type(core.join(3, 2, 0, 0)), given);
+        check.due("no ARROW", core.type(core.join(3, 0, 4, 0)), NONE);
+        check.due("its FAULT", core.fault(0), 2);
+        check.sentence(13, "ARROWS that it needs come, if it has one: also if that is INT");
+        CoreTerms anew = new CoreTerms();
+        check.due("a CALL of a FUNCTION", anew.type(Check.read(anew, "(\\a:i.a 1)")), 0);
+        check.due("TYPES", anew.count(1), 2);
+    }
+
     private static void typeFullOfTypes(Check check) {
         check.sentence(13, "FULL: TYPES");
         // ((i>i)>(i>i)) is there; each function of INT around it needs one more
@@ -327,11 +387,30 @@ public final class BoundsOfAskingTest {
         alike(check, "\\a:i.[a=a]a", "\\a:i.[b=a]b", 1);
         alike(check, "\\a:i.[a=a]a", "\\a:i.[b=a]a", 0);
         alike(check, "\\a:i.\\a:i.a", "\\a:i.\\b:i.a", 0);
+        alike(check, "\\a:i.(\\a:i.1+a)", "\\b:i.(\\b:i.1+b)", 1);
+        alike(check, "\\a:i.(\\b:i.1+a)", "\\b:i.(\\a:i.1+b)", 1);
+        alike(check, "\\a:i.(\\b:i.1+b)", "\\b:i.(\\a:i.1+a)", 0);
+        alike(check, "\\a:i.(\\a:i.1+b)", "\\b:i.(\\a:i.1+b)", 0);
+        alike(check, "(\\a:i.1+a)", "(\\b:i.1+a)", 1);
+        alike(check, "(\\a:i.1+a)", "(\\b:i.1+b)", 0);
+        alike(check, "([a=1]a+a)", "([b=1]b+a)", 1);
+        alike(check, "([a=1]a+a)", "([b=1]b+b)", 0);
+        alike(check, "\\a:i.\\b:i.\\c:i.(a (b c))", "\\c:i.\\a:i.\\b:i.(c (a b))", 1);
+        alike(check, "\\a:i.\\b:i.\\c:i.(a (b c))", "\\c:i.\\a:i.\\b:i.(c (b a))", 0);
+        check.sentence(15, "the same, in each PART");
+        alike(check, "{1?2:3}", "{0?2:3}", 0);
+        alike(check, "{1?2:3}", "{1?0:3}", 0);
+        alike(check, "{1?2:3}", "{1?2:0}", 0);
+        alike(check, "(1 2)", "(0 2)", 0);
+        alike(check, "(1 2)", "(1 0)", 0);
+        alike(check, "[a=1]2", "[a=0]2", 0);
+        alike(check, "[a=1]2", "[a=1]0", 0);
         check.sentence(15, "or FREE and the same in both");
         alike(check, "a", "z", 0);
         alike(check, "z", "z", 1);
         alike(check, "\\a:i.b", "\\b:i.b", 0);
-        alike(check, "\\b:i.b", "\\a:i.b", 0);
+        alike(check, "\\b:i.a", "\\b:i.b", 0);
+        alike(check, "\\y:i.z", "\\y:i.y", 0);
         alike(check, "[a=a]1", "[b=b]1", 0);
         alike(check, "[a=c]1", "[b=c]1", 1);
         check.sentence(15, "TYPES of FUNCTIONS are the same");

@@ -16,6 +16,7 @@ public final class BoundsOfChangingTest {
         putFullOfDepth(check);
         putFirstLetter(check);
         putFullOfLetters(check);
+        putFullOfLettersInEachPart(check);
         putNeedsNoLetter(check);
         putItself(check);
         stepBad(check);
@@ -24,6 +25,7 @@ public final class BoundsOfChangingTest {
         stepFullOfSize(check);
         stepFullOfDepth(check);
         stepFullOfLetters(check);
+        stepMakesTheSameKind(check);
         stepWraps(check);
         stepChoice(check);
         stepDeepest(check);
@@ -37,6 +39,7 @@ public final class BoundsOfChangingTest {
         dropFull(check);
         dropWhatBecame(check);
         dropDeepest(check);
+        termZero(check);
         check.end();
     }
 
@@ -198,6 +201,41 @@ public final class BoundsOfChangingTest {
         Check.read(core, "(a+(a 1))");
         int b = core.name(1), f = core.function(1, 0, Made.ofLetters(core, 0, 25)), sum = core.join(5, 4, f, 0);
         check.refused("behind a PART that came", core, () -> core.put(sum, 0, b), FULL);
+        // z is left for the outer one, but not for the inner one that binds it
+        for (int kind : new int[] {2, 4}) {
+            CoreTerms two = new CoreTerms();
+            int one = two.name(1), inner = binds(two, kind, 25, Made.ofLetters(two, 0, 25)), outer = binds(two, kind, 1, inner);
+            check.refused("of an inner one", two, () -> two.put(outer, 0, one), FULL);
+        }
+    }
+
+    private static int binds(CoreTerms core, int kind, int x, int b) {
+        return kind == 2 ? core.function(x, 0, b) : core.let(x, core.number(1), b);
+    }
+
+    /** The PART that needs a letter stands at each place of each KIND; there is room for all else. */
+    private static void putFullOfLettersInEachPart(Check check) {
+        check.sentence(17, "FULL: a letter more than there are, in each PART");
+        for (int kind = 2; kind <= 6; kind++) {
+            for (int place = 0; place < new int[] {0, 0, 1, 2, 2, 2, 3}[kind]; place++) {
+                CoreTerms core = new CoreTerms();
+                int b = core.name(1), f = core.function(1, 0, Made.ofLetters(core, 0, 25)), a = core.name(0);
+                int t = around(core, kind, place, f, a);
+                check.refused("KIND " + kind + ", PART " + place, core, () -> core.put(t, 0, b), FULL);
+                int more = core.join(5, t, a, 0);
+                check.refused("within a SUM", core, () -> core.put(more, 0, b), FULL);
+            }
+        }
+    }
+
+    /** The TERM at its place in one of the KIND; a at the others. */
+    private static int around(CoreTerms core, int kind, int place, int t, int a) {
+        int first = place == 0 ? t : a, second = place == 1 ? t : a;
+        switch (kind) {
+            case 2: return core.function(2, 0, first);
+            case 4: return core.let(2, first, second);
+            default: return core.join(kind, first, second, place == 2 ? t : a);
+        }
     }
 
     private static void putNeedsNoLetter(Check check) {
@@ -334,8 +372,25 @@ public final class BoundsOfChangingTest {
         int let = core.let(0, b, f), call = core.join(3, core.function(0, 0, f), b, 0), sum = core.join(5, let, b, 0);
         check.refused("a LET", core, () -> core.step(let), FULL);
         check.refused("a CALL", core, () -> core.step(call), FULL);
+        int behind = core.join(5, core.number(1), let, 0), called = core.join(3, let, b, 0), asked = core.join(6, let, b, b);
         check.refused("within a SUM", core, () -> core.step(sum), FULL);
+        check.refused("within a SUM, behind a NUMBER", core, () -> core.step(behind), FULL);
+        check.refused("within a CALL", core, () -> core.step(called), FULL);
+        check.refused("within a CHOICE", core, () -> core.step(asked), FULL);
         check.due("none is needed", core.told(core.step(core.let(0, core.number(1), f)), 4), 1);
+    }
+
+    private static void stepMakesTheSameKind(Check check) {
+        check.sentence(18, "What comes of a PART's STEP stands in its place in a new TERM of the same KIND");
+        Object[][] rows = {{"((1+2)+a)", 0}, {"(1+(2+3))", 1}, {"((1+2) a)", 0}, {"{(1+2)?a:b}", 0}};
+        for (Object[] row : rows) {
+            CoreTerms core = new CoreTerms();
+            int t = Check.read(core, (String) row[0]), place = (Integer) row[1], before = core.count(0), got = core.step(t);
+            check.due("the TERM of " + row[0], got, before + 1);
+            for (int what : new int[] {0, 3, 4, 5, 6, 7, 8}) {
+                check.due("told " + what, core.told(got, what), what == 6 + place ? before : core.told(t, what));
+            }
+        }
     }
 
     private static void stepWraps(Check check) {
@@ -532,7 +587,8 @@ public final class BoundsOfChangingTest {
     private static void dropFull(Check check) {
         check.sentence(21, "FULL: TERMS");
         Object[][] rows = {{"[a=1]c", 0}, {"[a=1][d=a]c", 0}, {"[a=1]a", 0}, {"7", 0}, {"(a+b)", 0}, {"([a=1]2+3)", 1}, {"(3 [a=1]2)", 1},
-            {"(([a=1]2+3)+4)", 2}, {"\\c:i.[a=1]c", 1}, {"\\c:i.\\d:i.[a=1]c", 2}, {"{[a=1]1?[a=1]2:[a=1]3}", 1}, {"{1?2:[a=1]3}", 1},
+            {"(([a=1]2+3)+4)", 2}, {"\\c:i.[a=1]c", 1}, {"\\c:i.\\d:i.[a=1]c", 2}, {"{[a=1]1?[a=1]2:[a=1]3}", 1}, {"{1?2:[a=1]3}", 1}, {"{([a=1]2+3)?4:5}", 2},
+            {"{1?([a=1]2+3):4}", 2}, {"{1?4:([a=1]2+3)}", 2},
             {"[a=[d=1]a]a", 1}, {"[b=([a=1]2+3)]b", 2}, {"[b=([a=1]2+3)]4", 1}, {"[c=1]([a=1]2+c)", 2}, {"[c=1]([a=1]2+3)", 1}};
         for (Object[] row : rows) {
             room(check, (String) row[0], (Integer) row[1], core -> core.drop(whole(core)));
@@ -565,5 +621,51 @@ public final class BoundsOfChangingTest {
         check.due("the outermost is", Check.text(core, core.drop(first)), "[a=1]a");
         int all = Check.read(core, "[a=a]".repeat(39) + "a");
         check.refused("all are", core, () -> core.drop(all), all);
+    }
+
+    /** The least TERM is an answer as any other one, and so it is as a PART. */
+    private static void termZero(Check check) {
+        for (String text : new String[] {"a", "7"}) {
+            CoreTerms core = new CoreTerms();
+            int zero = Check.read(core, text), b = core.name(1), one = core.number(1), f = core.function(1, 0, zero);
+            check.sentence(17, "u is put for x into t: TERM 0");
+            check.due("for a NAME", core.put(b, 1, zero), 0);
+            check.due("into TERM 0", core.put(zero, 1, b), 0);
+            int sum = core.put(core.join(5, b, one, 0), 1, zero), last = core.put(core.join(6, one, one, b), 1, zero);
+            check.due("in a SUM", core.told(sum, 6) * 1000 + core.told(sum, 7), one);
+            check.due("in a CHOICE", core.told(last, 8), 0);
+            check.sentence(18, "A STEP: TERM 0");
+            int choice = core.join(6, one, zero, one), call = core.join(3, f, one, 0), let = core.let(1, one, zero);
+            int took = core.count(0);
+            check.due("of a CHOICE", core.step(choice), 0);
+            check.due("of a CALL", core.step(call), 0);
+            check.due("of a LET", core.step(let), 0);
+            check.due("no TERMS came", core.count(0), took);
+            for (int t : new int[] {choice, call, let}) {
+                check.due("in a SUM", core.told(core.step(core.join(5, t, one, 0)), 6), 0);
+                check.due("in a SUM, behind a NUMBER", core.told(core.step(core.join(5, one, t, 0)), 7), 0);
+                check.due("in a CALL", core.told(core.step(core.join(3, t, one, 0)), 6), 0);
+                check.due("in a CHOICE", core.told(core.step(core.join(6, t, one, one)), 6), 0);
+            }
+            check.sentence(19, "the TERM behind them: TERM 0");
+            check.due("of a CHOICE", core.run(choice, 50), 0);
+            check.due("ran", core.ran(), 1);
+            check.due("of itself", core.run(zero, 50), 0);
+            check.sentence(21, "Lets are DROPPED: TERM 0");
+            check.due("of a LET", core.drop(let), 0);
+            int before = core.count(0), e = core.join(5, let, one, 0);
+            check.due("of a LET whose e becomes another one", core.drop(core.let(1, e, zero)), 0);
+            check.due("which stays", core.told(before + 2, 6) * 1000 + core.told(before + 2, 7), one);
+            for (int kind = 2; kind <= 6; kind++) {
+                for (int place = 0; place < new int[] {0, 0, 1, 2, 2, 2, 3}[kind]; place++) {
+                    int t = core.drop(around(core, kind, place, let, core.name(2)));
+                    boolean goes = kind == 4 && place == 1;
+                    check.due("KIND " + kind + ", PART " + place, goes ? t : core.told(t, 6 + place), 0);
+                }
+                int of = around(core, kind, 0, zero, zero);
+                int kept = kind == 4 ? zero : of;
+                check.due("KIND " + kind + " of TERM 0 alone", core.drop(of), kept);
+            }
+        }
     }
 }

@@ -102,7 +102,7 @@ public final class BoundsOfTextsTest {
         // of each KIND one that has 4000 bytes, and one byte more in its last PART
         for (int kind = 2; kind <= 6; kind++) {
             CoreTerms each = new CoreTerms();
-            int a = each.number(1);
+            int a = each.name(25);
             int rest = 4000 - new int[] {0, 0, 5, 4, 5, 4, 6}[kind];
             check.due("KIND " + kind + ", 4000", each.print(around(each, kind, a, Made.ofWidth(each, rest))), 4000);
             check.due("KIND " + kind + ", 4001", each.print(around(each, kind, a, Made.ofWidth(each, rest + 1))), FULL);
@@ -279,7 +279,7 @@ public final class BoundsOfTextsTest {
         int toldPlace = -10 - ahead.length(), end = Check.read(core, ahead);
         check.due(ahead + " and the end", whole && end >= 0 ? 0 : end, whole ? 0 : toldPlace);
         for (char c = 0; c < 256; c++) {
-            core.clear();
+            core = new CoreTerms();
             int answer = Check.read(core, ahead + c), then = Check.read(core, ahead + c + "!");
             if (allowed.indexOf(c) < 0) {
                 check.due(ahead + " and the byte " + (int) c, answer, toldPlace);
@@ -295,14 +295,15 @@ public final class BoundsOfTextsTest {
         check.sentence(26, "its length, if it ends too early");
         String[] texts = {"\\a:((i>i)>(i>(i>i))).{(a b)?[c=d](e+f):\\z:i.y}", "[a={b?c:d}](e (f+g))", "{\\a:i.b?(c d):[e=f]g}", "(-1+(a -2))"};
         for (String text : texts) {
-            CoreTerms core = new CoreTerms();
             for (int n = 0; n < text.length(); n++) {
+                CoreTerms core = new CoreTerms();
                 check.due("the first " + n + " of " + text, Check.read(core, text.substring(0, n)), -10 - n);
                 check.due("TERMS", core.count(0), 0);
                 check.due("TYPES", core.count(1), 1);
                 check.due("THE TAPE", core.count(2), 0);
             }
-            check.due("the whole of " + text, Check.text(core, Check.read(core, text)), text);
+            CoreTerms whole = new CoreTerms();
+            check.due("the whole of " + text, Check.text(whole, Check.read(whole, text)), text);
         }
     }
 
@@ -351,6 +352,17 @@ public final class BoundsOfTextsTest {
         check.due("the ARROW is the same", core.told(7, 5), core.told(3, 5));
         check.due("TYPES", core.count(1), 2);
         check.due("the NAMES are two", core.told(6, 6) * 10 + core.told(6, 7), 45);
+        CoreTerms each = new CoreTerms();
+        Check.read(each, "{[a=-7]b?(c+\\d:(i>i).0):(e f)}");
+        long[][] due = {{0, 1, 1, -7, -2, -2, -2, -2, -2}, {1, 1, 1, 0, 1, -2, -2, -2, -2}, {4, 3, 2, 0, 0, -2, 0, 1, -2},
+            {1, 1, 1, 0, 2, -2, -2, -2, -2}, {0, 1, 1, 0, -2, -2, -2, -2, -2}, {2, 2, 2, 0, 3, 1, 4, -2, -2}, {5, 4, 3, 0, -2, -2, 3, 5, -2},
+            {1, 1, 1, 0, 4, -2, -2, -2, -2}, {1, 1, 1, 0, 5, -2, -2, -2, -2}, {3, 3, 2, 0, -2, -2, 7, 8, -2}, {6, 11, 4, 0, -2, -2, 2, 6, 9}};
+        for (int t = 0; t < due.length; t++) {
+            for (int what = 0; what < 9; what++) {
+                check.due("told(" + t + ", " + what + ")", each.told(t, what), due[t][what]);
+            }
+        }
+        check.due("TERMS", each.count(0), due.length);
     }
 
     /** The first byte behind which so many TERMS are finished is at each place; FULL is found there, whatever is behind it. */
@@ -440,6 +452,16 @@ public final class BoundsOfTextsTest {
             check.due("a TYPE is the 41st", Check.read(core, part.repeat(38) + "\\a:(i!"), FULL);
             check.due("a TYPE within the 40th TERM", Check.read(core, ahead + "\\a:i"), FULL);
             check.due("nothing stays", core.count(0) * 100 + core.count(1), 1);
+        }
+        for (String part : new String[] {"(", "(i>", "((i>i)>"}) {
+            CoreTerms core = new CoreTerms();
+            String ahead = "\\a:" + part.repeat(37);
+            check.due("the 39th TYPE in a FUNCTION, behind " + part, Check.read(core, ahead + "(i!"), -10 - ahead.length() - 2);
+            check.due("as TO", Check.read(core, ahead + "(i>i!"), -10 - ahead.length() - 4);
+            check.due("the 40th, behind " + part, Check.read(core, ahead + "((i!"), FULL);
+            check.due("as TO", Check.read(core, ahead + "(i>(i!"), FULL);
+            check.due("another byte where it would begin", Check.read(core, ahead + "((!"), -10 - ahead.length() - 2);
+            check.due("the end where it would begin", Check.read(core, ahead + "(("), -10 - ahead.length() - 2);
         }
     }
 
