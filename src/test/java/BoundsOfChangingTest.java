@@ -43,7 +43,7 @@ public final class BoundsOfChangingTest {
         check.end();
     }
 
-    /** A call of the last TERM of the text that makes so many TERMS: with just that room, and with each lesser one. */
+    /** A call that makes so many TERMS of the text: with just that room, and with each lesser one. */
     private static void room(Check check, String text, int needed, ToLongFunction<CoreTerms> call) {
         for (int room = 0; room <= needed; room++) {
             int left = room;
@@ -58,7 +58,7 @@ public final class BoundsOfChangingTest {
         }
     }
 
-    /** The TERM of the text behind "b", which is TERM 0; no text here has a NUMBER 0, of which is what fills the object. */
+    /** The TERM of the text behind "b", which is TERM 0; NUMBERS 0 fill the object, so no text here has one. */
     private static int whole(CoreTerms core) {
         int t = 1;
         for (int i = 2; i < core.count(0) && !(core.told(i, 0) == 0 && core.told(i, 3) == 0); i++) {
@@ -173,7 +173,7 @@ public final class BoundsOfChangingTest {
         }
     }
 
-    /** TERM 0 is b; TERM 1 is a; then come u, of b .. last, and t, of a .. to; their numbers are the last but one and the last. */
+    /** TERM 0 is b; the last but one is u, a SUM of b .. last; the last is t, which binds b in a SUM of a .. to. */
     private static CoreTerms ofLetters(boolean let, int to, int last) {
         CoreTerms core = new CoreTerms();
         core.name(1);
