@@ -379,7 +379,7 @@ public final class CoreTerms {
             return (freeLettersOf(t) & bit(x)) != 0;
         }
 
-        int usesOf(int t, int x) {
+        private int usesOf(int t, int x) {
             if (!isFree(t, x)) {
                 return 0;
             }
@@ -701,7 +701,7 @@ public final class CoreTerms {
             this.terms = terms;
         }
 
-        int into(int t, int x, int u) {
+        private int into(int t, int x, int u) {
             if (!terms.isFree(t, x)) {
                 return t;
             }
@@ -787,7 +787,7 @@ public final class CoreTerms {
             this.putter = putter;
         }
 
-        int stepOf(int t) {
+        private int stepOf(int t) {
             switch (terms.kindOf(t)) {
                 case CALL: return stepOfCall(t);
                 case LET: return putter.into(terms.secondOf(t), terms.letterOf(t), terms.firstOf(t));
@@ -840,7 +840,7 @@ public final class CoreTerms {
             this.terms = terms;
         }
 
-        int withoutLets(int t) {
+        private int withoutLets(int t) {
             if (!terms.has(t)) {
                 return t;
             }
